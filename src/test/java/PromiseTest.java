@@ -317,6 +317,12 @@ public final class PromiseTest {
         afterRun(mixed);
         dueRows("row 0 for 20, row 1 for 20 sites", mixed, 0);
         dueSites("row 0 for 20, row 1 for 20 sites", mixed, 10);
+        LegalRows crowded = withCells(3, 60, 10, 30, 30, 34);
+        crowded.want(1, 30, 2);
+        crowded.want(2, 34, 1);
+        crowded.bar(1, 0, 60);
+        afterRun(crowded);
+        dueRows("rows 0 and 2 both for 20 and 6 sites", crowded, 0, 2, 0);
     }
 
     private static void runCountsWhatOthersMove() {
