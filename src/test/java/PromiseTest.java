@@ -1,9 +1,5 @@
 /** For each promise: ordinary inputs, the edges that the document names, and wrong inputs. */
-public final class PromiseTest {
-    private static final Class<IndexOutOfBoundsException> NO_SUCH = IndexOutOfBoundsException.class;
-    private static final Class<IllegalStateException> BAD_STATE = IllegalStateException.class;
-    private static final Class<IllegalArgumentException> BAD_VALUE = IllegalArgumentException.class;
-
+public final class PromiseTest extends Scenes {
     public static void main(String[] args) {
         newObject();
         cellNumbers();
@@ -38,35 +34,6 @@ public final class PromiseTest {
         overlapIsNone();
         Checks.due("NONE", -1, () -> LegalRows.NONE);
         Checks.end("PromiseTest");
-    }
-
-    /** One cell of that width for each wanted site, in row 0. */
-    private static LegalRows withCells(int rows, long sites, long width, long... wanted) {
-        LegalRows x = new LegalRows(rows, sites);
-        for (int i = 0; i < wanted.length; i++) {
-            x.cell(width, 1);
-            x.want(i, wanted[i], 0);
-        }
-        return x;
-    }
-
-    private static LegalRows afterRun(LegalRows x) {
-        Checks.due("run()", 0, () -> x.run());
-        return x;
-    }
-
-    private static void dueSites(String what, LegalRows x, long... sites) {
-        for (int i = 0; i < sites.length; i++) {
-            int cell = i;
-            Checks.due(what + ": at(" + cell + ")", sites[i], () -> x.at(cell));
-        }
-    }
-
-    private static void dueRows(String what, LegalRows x, int... rows) {
-        for (int i = 0; i < rows.length; i++) {
-            int cell = i;
-            Checks.due(what + ": rowOf(" + cell + ")", rows[i], () -> x.rowOf(cell));
-        }
     }
 
     // Promise 1
@@ -378,21 +345,11 @@ public final class PromiseTest {
         duePlacesGone("there and back", x -> x.want(0, 1, 0) && x.want(0, 0, 0));
     }
 
-    private interface Change {
-        Object on(LegalRows x);
-    }
-
-    private static void duePlacesGone(String what, Change change) {
+    private static void duePlacesGone(String what, Use change) {
         LegalRows x = afterRun(withCells(2, 30, 3, 0, 10));
         change.on(x);
-        Checks.dueThrows(what + ": at(0)", BAD_STATE, () -> x.at(0));
-        Checks.dueThrows(what + ": rowOf(0)", BAD_STATE, () -> x.rowOf(0));
-        Checks.dueThrows(what + ": mirrored(0)", BAD_STATE, () -> x.mirrored(0));
-        Checks.dueThrows(what + ": moved()", BAD_STATE, () -> x.moved());
-        Checks.dueThrows(what + ": improve(1)", BAD_STATE, () -> x.improve(1));
+        dueNoPlaces(what, x);
         Checks.dueThrows(what + ": improve(-1)", BAD_STATE, () -> x.improve(-1));
-        Checks.dueThrows(what + ": wire()", BAD_STATE, () -> x.wire());
-        Checks.dueThrows(what + ": overlap()", BAD_STATE, () -> x.overlap());
         afterRun(x);
         Checks.due(what + ": rowOf(1)", 0, () -> x.rowOf(1));
     }
