@@ -373,6 +373,18 @@ public final class BoundaryTest extends Scenes {
         Checks.due("all of the row but four", true, () -> x.bar(0, 0, 20));
         Checks.due("all of the row", false, () -> x.bar(0, 0, 20));
         Checks.due("the other row", true, () -> x.bar(1, 0, 20));
+        dueAllNew("from the left", 0, 1, 2, 3, 4);
+        dueAllNew("from the right", 4, 3, 2, 1, 0);
+        dueAllNew("from the right, then from the left", 4, 3, 1, 0, 2);
+        dueAllNew("every second one first", 1, 3, 0, 2, 4);
+    }
+
+    private static void dueAllNew(String order, int... sites) {
+        LegalRows x = new LegalRows(1, sites.length);
+        for (int site : sites) {
+            Checks.due("one by one " + order, true, () -> x.bar(0, site, site + 1));
+        }
+        Checks.due("all of them " + order, false, () -> x.bar(0, 0, sites.length));
     }
 
     // Promise 5: "IndexOutOfBoundsException; IllegalArgumentException: no such kind"
@@ -717,6 +729,10 @@ public final class BoundaryTest extends Scenes {
         afterRun(x);
         dueSites("side by side", x, 0, 2, 4);
         Checks.due("side by side", false, () -> x.overlap());
+        LegalRows back = withCells(1, 6, 2, 4, 2, 0);
+        afterRun(back);
+        dueSites("side by side from the right", back, 4, 2, 0);
+        Checks.due("side by side from the right", false, () -> back.overlap());
         x.bar(0, 2, 4);
         afterRun(x);
         Checks.due("side by side with a bar", false, () -> x.overlap());
