@@ -11,6 +11,7 @@ public final class LegalRows {
     private static final int MOST_NETS = 80;
     private static final int MOST_WIDTH = 40;
     private static final int MOST_SPACE = 20;
+    private static final int MOST_CALLS = 512;
     private static final int KINDS = 4;
     private static final int SITES_PER_ROW_MOVED = 20;
     private static final int HALVES_PER_ROW_WIRED = 40;
@@ -206,8 +207,8 @@ public final class LegalRows {
         Ground(int rows, int sites) {
             this.rows = rows;
             this.sites = sites;
-            // A barred site stands between two parts of a row, so a row has no more than this.
-            int most = rows * ((sites + 1) / 2);
+            // A barred site stands between two parts of a row, and a call brings one part at most.
+            int most = Math.min(rows * ((sites + 1) / 2), rows + MOST_CALLS);
             partRow = new int[most];
             partFrom = new int[most];
             partTo = new int[most];

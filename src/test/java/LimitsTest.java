@@ -6,6 +6,7 @@ public final class LimitsTest {
     };
 
     public static void main(String[] args) {
+        partsOfAllCalls();
         everySecondSite();
         cellsWithoutSpareRoom();
         cellsPushedTogether();
@@ -23,20 +24,38 @@ public final class LimitsTest {
         return x;
     }
 
+    /** The last of the bars would cut off row 15 if there were not room for all parts. */
+    private static void partsOfAllCalls() {
+        LegalRows x = new LegalRows(16, 1000);
+        x.cell(2, 1);
+        x.want(0, 500, 15);
+        for (int i = 0; i < 507; i++) {
+            int row = i / 32;
+            int site = 2 * (i % 32) + 1;
+            Checks.due("bar " + i, true, () -> x.bar(row, site, site + 1));
+        }
+        Checks.due("run() in 523 parts", 0, () -> x.run());
+        Checks.due("at(0) in 523 parts", 500L, () -> x.at(0));
+        Checks.due("rowOf(0) in 523 parts", 15, () -> x.rowOf(0));
+    }
+
+    /** Far more than 512 calls: what they answer is free, but not that the machine throws. */
     private static void everySecondSite() {
         LegalRows x = full(1);
         for (int row = 0; row < 16; row++) {
             for (int site = 1; site < 1000; site += 2) {
-                x.bar(row, site, site + 1);
+                int barredRow = row;
+                int barred = site;
+                ownThrow("bar", () -> x.bar(barredRow, barred, barred + 1));
             }
         }
-        Checks.due("run() in 8000 parts", 0, () -> x.run());
-        Checks.due("overlap() in 8000 parts", false, () -> x.overlap());
+        ownThrow("run() in many parts", () -> x.run());
+        ownThrow("overlap() in many parts", () -> x.overlap());
         for (int row = 0; row < 16; row++) {
             int barred = row;
-            Checks.due("all at once", true, () -> x.bar(barred, 0, 1000));
+            ownThrow("all at once", () -> x.bar(barred, 0, 1000));
         }
-        Checks.due("run() without parts", 1, () -> x.run());
+        ownThrow("run() without parts", () -> x.run());
     }
 
     private static void cellsWithoutSpareRoom() {
